@@ -362,9 +362,10 @@ public final class CarpetCounter {
             return BAD_VALUE;
         }
         plan.copyFrom(book);
+        int rooms = plan.rooms.came;
         int covered = 0;
         int waste = 0;
-        for (int room = 0; room < plan.rooms.came; room++) {
+        for (int room = 0; room < rooms; room++) {
             choose(plan, room, kind);
             if (choice.isMade) {
                 plan.lay(room, choice.roll, choice.way);
@@ -377,7 +378,8 @@ public final class CarpetCounter {
 
     private void choose(Book from, int room, int kind) {
         choice.isMade = false;
-        for (int roll = 0; roll < from.rolls.came; roll++) {
+        int rolls = from.rolls.came;
+        for (int roll = 0; roll < rolls; roll++) {
             if (from.rolls.kind.at(roll) != kind) {
                 continue;
             }
