@@ -50,11 +50,18 @@ final class Due {
         return x;
     }
 
-    /** All that the object tells, to see that a call changed nothing. */
+    /**
+     * All that the object tells, to see that a call changed nothing. These are more than
+     * 512 calls: what such calls answer is free by the document, but the class answers on.
+     */
     static String told(CarpetCounter x) {
+        return x.count(9) + " " + toldButHistory(x);
+    }
+
+    static String toldButHistory(CarpetCounter x) {
         StringBuilder told = new StringBuilder();
         for (int what = 0; what < 16; what++) {
-            told.append(x.count(what)).append(' ');
+            told.append(what == 9 ? 0 : x.count(what)).append(' ');
         }
         for (int roll = 0; roll < 12; roll++) {
             for (int what = 0; what < 10; what++) {
@@ -80,8 +87,12 @@ final class Due {
     }
 
     void same(String before, CarpetCounter x, String call) {
+        sameTold(before, told(x), call);
+    }
+
+    void sameTold(String before, String after, String call) {
         seen++;
-        if (!before.equals(told(x))) {
+        if (!before.equals(after)) {
             wrong++;
             System.out.println(promise + ": " + call + " changed something");
         }

@@ -7,6 +7,7 @@ public final class HistoryTest {
         undoAfterDrops();
         keep();
         restore();
+        wholeState();
         due.end();
     }
 
@@ -104,5 +105,40 @@ public final class HistoryTest {
         x.sell(0);
         due.is(2, x.restore(), "the snapshot stays");
         due.is(0, x.offcut(0, 0), "its offcut");
+    }
+
+    /** Rolls, rooms and offcuts of the same numbers but with other sides take the place of those kept. */
+    private static void wholeState() {
+        due.promise("12 to 14, a state is everything but the text, the history and the snapshot");
+        CarpetCounter x = new CarpetCounter();
+        lived(x, 1, 10, 100, 5, "7x20@0;8x10@0;16x6@1");
+        String first = Due.told(x);
+        x.keep();
+        for (int i = 0; i < 4; i++) {
+            x.undo();
+        }
+        lived(x, 2, 12, 60, 7, "7x9+4x4@3;8x13@2;5x5+3x4@0;60x60@1");
+        String second = Due.toldButHistory(x);
+        due.is(2, x.rollOf(0, 0), "its kind");
+        due.is(12, x.rollOf(0, 1), "its width");
+        due.is(51, x.rollOf(0, 2), "its length");
+        due.is(7, x.rollOf(0, 3), "its price");
+        due.is(79, x.rollOf(0, 6), "its strips");
+        due.is(720, x.rollOf(0, 9), "its area");
+        x.restore();
+        Due.text(x, "7x20@0;8x10@0;16x6@1");
+        due.same(first, x, "restore");
+        due.is(3, x.undo(), "undo");
+        Due.text(x, "7x9+4x4@3;8x13@2;5x5+3x4@0;60x60@1");
+        due.sameTold(second, Due.toldButHistory(x), "undo of restore");
+    }
+
+    /** Four acts, of which the last one covers the room 0. */
+    private static void lived(CarpetCounter x, int kind, int width, int length, int price, String rooms) {
+        x.roll(kind, width, length, price);
+        x.set(3, kind + 4);
+        Due.rooms(x, rooms);
+        x.cover(0, 0, 0);
+        due.is(4, x.count(9), "states");
     }
 }

@@ -69,9 +69,20 @@ public final class LanguageTest {
             if (end - i > 60 || m.group(2).split(",").length > 7) {
                 tell("too long: " + code.get(i).trim());
             }
+            makesNothing(code.subList(i, end));
         }
         if (classes > 12) {
             tell(classes + " classes");
+        }
+    }
+
+    /** Rule 12 and the room for all calls of one run: rows are made by constructors alone. */
+    private static void makesNothing(List<String> method) {
+        boolean isConstructor = method.get(0).matches(" *(?:\\w+ )?[A-Z]\\w*\\(.*");
+        for (String line : method) {
+            if (!isConstructor && line.matches(".*\\b(?:new|clone|copyOf\\w*)\\b.*")) {
+                tell("an object is made: " + line.trim());
+            }
         }
     }
 
