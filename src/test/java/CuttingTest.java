@@ -127,7 +127,7 @@ public final class CuttingTest {
         CarpetCounter x = Due.with(0, 20, 999, 1, sides + "@0;" + rooms);
         x.set(1, 20);
         x.cover(0, 0, 0);
-        due.is(1, x.takeUp(0), "takeUp");
+        due.is(1, x.takeUp(0), "takeUp of " + sides);
         due.is(1, x.count(3), "kept");
         return x;
     }
@@ -216,6 +216,8 @@ public final class CuttingTest {
         rests(2, "20x20", "19x19", new int[] {1, 20, 19, 1}); // 20, 20
         rests(2, "20x20", "18x2", new int[] {2, 2, 20, 18}); // 324 behind by the rule 0, 360
         rests(2, "20x20", "2x18", new int[] {18, 20, 2, 2}); // 360, 324 beside by the rule 1
+        rests(2, "5x40", "4x20", new int[] {1, 20, 5, 20}); // 80, 100
+        rests(2, "20x5", "12x4", new int[] {8, 5, 12, 1}); // 40, 32
         // by area, though the rule 1 throws both rests away and the rule 0 but one
         CarpetCounter x = Due.with(0, 30, 15, 1, "30x15@0;20x8@0");
         x.cover(0, 0, 0);

@@ -19,6 +19,7 @@ public final class LimitsTest {
         oldestStateDropped();
         noSnapshot();
         nothingToTell();
+        fiveHundredAndTwelveCalls();
         due.end();
     }
 
@@ -160,6 +161,14 @@ public final class LimitsTest {
         due.is(59, x.sorted(0), "the least one");
         due.is(58, x.sorted(59), "the greatest one");
         due.is(-5, x.sorted(60), "the rank 60");
+        due.is(12, x.sell(0), "sell the first one");
+        due.is(4, x.offcut(59, 1), "the last one stays");
+        due.is(5, x.offcut(58, 1), "so does the one before it");
+        due.is(5, x.offcut(1, 2), "so does the second one");
+        due.is(-1, x.offcut(0, 1), "the first one is gone");
+        due.is(59, x.rollOf(0, 4), "kept");
+        x.undo();
+        due.is(60, x.rollOf(0, 4), "kept after undo");
         due.is(8, x.sell(59), "sell the last one");
         due.is(59, x.rollOf(0, 4), "kept");
         due.is(59 * 25, x.rollOf(0, 5), "their area");
@@ -364,5 +373,22 @@ public final class LimitsTest {
         due.is(-1, y.cover(0, 0, 0), "cover without rolls");
         due.is(-5, y.best(0, 0, 0), "best without rolls");
         due.is(0, y.coverAll(0, 0), "coverAll without rolls");
+    }
+
+    /** The last calls that the document asks for answer as the first ones do. */
+    private static void fiveHundredAndTwelveCalls() {
+        due.promise("An object is used for at most 512 calls");
+        CarpetCounter x = Due.with(0, 60, 999, 99, "60x60+60x60+60x60@0"); // 22 calls
+        for (int i = 0; i < 100; i++) {
+            due.is(1069200, x.cover(0, 0, 0), "cover");
+            due.is(3, x.takeUp(0), "takeUp");
+            due.is(819, x.rollOf(0, 2), "left");
+        }
+        for (int i = 322; i < 509; i++) {
+            due.is(i % 2 == 0 ? 0 : 1, x.set(0, i % 2 == 0 ? 1 : 0), "set");
+        }
+        due.is(106920000, x.count(8), "coins, the call 510");
+        due.is(300, x.count(4), "offcuts so far, the call 511");
+        due.is(3, x.undo(), "undo, the call 512");
     }
 }

@@ -41,6 +41,8 @@ public final class RefusedTest {
         x.restore();
         x.cover(2, 1, 1); // the offcut 1: 6 x 16
         Due.text(x, "1x1@0;2x");
+        x.ifCovered(1, 1, 1, 0); // what would be must leave no trace in what follows
+        x.coverAll(3, 0);
         return x;
     }
 

@@ -169,9 +169,10 @@ public final class TextsTest {
         Due.text(x, ahead);
         due.is(ahead.length() + 1, x.type(sign), "type of the sign " + (int) sign);
         boolean isFault = x.fault() == ahead.length();
-        due.is(signs.indexOf(sign) < 0 ? 1 : 0, isFault ? 1 : 0, "a fault at the sign " + (int) sign + " behind " + ahead);
+        String call = "the sign " + (int) sign + " behind " + ahead;
+        due.is(signs.indexOf(sign) < 0 ? 1 : 0, isFault ? 1 : 0, "a fault at " + call);
         if (isFault) {
-            due.is(-100 - ahead.length(), x.rooms(), "rooms with the sign " + (int) sign + " behind " + ahead);
+            due.is(-100 - ahead.length(), x.rooms(), "rooms with " + call);
             due.is(0, x.count(1), "no rooms");
         }
     }

@@ -10,6 +10,8 @@ public final class ToldTest {
         strip();
         count();
         wasted();
+        coveringAfterUndo();
+        rollsWithoutRooms();
         due.end();
     }
 
@@ -163,5 +165,51 @@ public final class ToldTest {
         due.isDouble(36.0 / 600.0, x.wasted(1), "wasted(1)");
         x.clear(0, 9999);
         due.isDouble(0.08, x.wasted(0), "wasted(0)");
+    }
+
+    /** A room is covered one way, then another way, and then that is undone. */
+    private static void coveringAfterUndo() {
+        due.promise("18, 19");
+        for (int roll = 0; roll < 3; roll++) {
+            for (int way = 0; way < 2; way++) {
+                CarpetCounter x = Due.with(0, 10, 99, 1, "6x8@0;6x8@0");
+                x.roll(0, 12, 99, 1);
+                x.roll(0, 14, 99, 1);
+                x.set(1, 20);
+                x.cover(1, roll, way);
+                x.takeUp(1); // the offcut 0
+                x.cover(0, roll, way);
+                x.takeUp(0); // the offcut 1
+                x.cover(0, (roll + 1) % 3, 1 - way);
+                due.is((roll + 1) % 3, x.room(0, 4), "the roll");
+                due.is(1 - way, x.room(0, 5), "the way");
+                due.is(-5, x.strip(0, 0, 2), "the source");
+                x.undo();
+                due.is(-5, x.room(0, 4), "the roll of a bare room");
+                x.undo();
+                due.is(roll, x.room(0, 4), "the roll after undo");
+                due.is(way, x.room(0, 5), "the way after undo");
+                due.is(0, x.strip(0, 0, 2), "the source after undo");
+            }
+        }
+    }
+
+    private static void rollsWithoutRooms() {
+        due.promise("7, 15, 21, 22");
+        CarpetCounter x = Due.with(0, 10, 99, 1, "9x8@0;9x7@0;11x9@0");
+        x.cover(0, 0, 0);
+        x.roll(0, 11, 99, 1);
+        due.is(-5, x.clear(1, 9999), "clear of a new roll");
+        due.isDouble(0.0, x.wasted(1), "wasted of a new roll");
+        due.is(0, x.rollOf(1, 7), "the waste of a new roll");
+        due.is(2 * 7, x.ifCovered(1, 1, 0, 3), "the waste from the new roll");
+        due.is(7, x.ifCovered(1, 0, 0, 3), "the waste from the old one");
+        x.cover(1, 1, 0);
+        due.is(2 * 11, x.ifCovered(2, 1, 1, 3), "the waste from the new roll with the way 1");
+        CarpetCounter none = new CarpetCounter();
+        none.roll(0, 10, 99, 1);
+        none.roll(0, 10, 99, 1);
+        due.isDouble(0.0, none.wasted(0), "wasted without rooms");
+        due.isDouble(0.0, none.wasted(1), "wasted without rooms");
     }
 }
