@@ -349,7 +349,8 @@ public final class CarpetCounter {
         if (place < 0) {
             return UNKNOWN;
         }
-        for (int room = 0; room < book.rooms.came; room++) {
+        int rooms = book.rooms.came;
+        for (int room = 0; room < rooms; room++) {
             if (book.sufficesFor(place, room)) {
                 return room;
             }
@@ -675,7 +676,8 @@ public final class CarpetCounter {
 
         int area(int room) {
             int sum = 0;
-            for (int i = 0; i < rectangles.at(room); i++) {
+            int parts = rectangles.at(room);
+            for (int i = 0; i < parts; i++) {
                 int place = cell(room, i);
                 sum += westEast.at(place) * southNorth.at(place);
             }
@@ -745,7 +747,8 @@ public final class CarpetCounter {
 
         int strips(int room) {
             int sum = 0;
-            for (int i = 0; i < rectangles.at(room); i++) {
+            int parts = rectangles.at(room);
+            for (int i = 0; i < parts; i++) {
                 sum += stripsIn(room, i);
             }
             return sum;
@@ -753,7 +756,8 @@ public final class CarpetCounter {
 
         int seams(int room) {
             int sum = 0;
-            for (int i = 0; i < rectangles.at(room); i++) {
+            int parts = rectangles.at(room);
+            for (int i = 0; i < parts; i++) {
                 sum += (stripsIn(room, i) - 1) * rectangleLength(room, i, way.at(room));
             }
             return sum;
@@ -761,7 +765,8 @@ public final class CarpetCounter {
 
         int stripWidth(int room, int rank) {
             int ahead = rank;
-            for (int i = 0; i < rectangles.at(room); i++) {
+            int parts = rectangles.at(room);
+            for (int i = 0; i < parts; i++) {
                 int strips = stripsIn(room, i);
                 if (ahead < strips) {
                     int wide = rollWidth.at(room);
@@ -774,7 +779,8 @@ public final class CarpetCounter {
 
         int stripLength(int room, int rank) {
             int ahead = rank;
-            for (int i = 0; i < rectangles.at(room); i++) {
+            int parts = rectangles.at(room);
+            for (int i = 0; i < parts; i++) {
                 int strips = stripsIn(room, i);
                 if (ahead < strips) {
                     return rectangleLength(room, i, way.at(room));

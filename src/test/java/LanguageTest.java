@@ -45,10 +45,22 @@ public final class LanguageTest {
                 tell(name + " is declared " + found + " times");
             }
         }
+        loops(code);
         sizes(code);
         System.out.println(wrong == 0 ? "the source is as due" : wrong + " faults");
         if (wrong != 0) {
             System.exit(1);
+        }
+    }
+
+    /** Rule 9: a counter runs against a bound that the loop's own line tells, and none calls for it. */
+    private static void loops(List<String> code) {
+        String counter = "for \\(int (\\w+) = [^;]+; \\1 (?:<=?|>=) [\\w.]+(?: - 1)?; \\1(?:\\+\\+|--)\\) \\{";
+        for (String line : code) {
+            if (line.matches(".*\\b(?:while|do)\\b.*")
+                    || line.matches(".*\\bfor\\b.*") && !line.trim().matches(counter)) {
+                tell("no end to be seen: " + line.trim());
+            }
         }
     }
 
